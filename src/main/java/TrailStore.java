@@ -758,6 +758,15 @@ public final class TrailStore {
             return disk.tableCell(places[i]);
         }
 
+        /** A bit for each. */
+        int placesInUse() {
+            int bits = 0;
+            for (int i = 0; i < tables; i++) {
+                bits |= 1 << places[i];
+            }
+            return bits;
+        }
+
         /** How many of the newest tables are of a level or one below. */
         int tablesUpTo(int level) {
             int counted = 0;
@@ -870,7 +879,7 @@ public final class TrailStore {
         private final byte[] header = new byte[HEADER];
         private final byte[] page = new byte[PLACE_BYTES];
         private final byte[] moved = new byte[LONGEST];
-        /** A bit for each place that no table may be written to in this checkpoint. */
+        /** A bit for each place that is in use or was put away in this checkpoint. */
         private int taken;
 
         Keeper(Disk disk, View view) {
@@ -888,19 +897,29 @@ public final class TrailStore {
 
         /** How many records were written, or FULL. */
         int store(Batch records) {
-            int size = records.size();
+            int bytes = records.size() + KEPT_FREE;
             if (view.memory.countWith(records) > MOST_IN_MEMORY) {
                 makeCheckpoint();
             }
-            if (!hasRoom(size + KEPT_FREE)) {
-                makePass();
+            if (!hasRoom(bytes)) {
+                // the pass stands here, and in no method of its own, to keep the calls few that stand open
+                int goal = view.head;
+                int looked = 1;
+                for (int round = 0; round < MOST_ROUNDS && looked > 0 && view.tail < goal; round++) {
+                    looked = collectTail(MOST_COLLECTED);
+                }
+                if (!hasRoom(bytes)) {
+                    return FULL;
+                }
+                if (view.memory.countWith(records) > MOST_IN_MEMORY) {
+                    makeCheckpoint();
+                }
             }
-            if (!hasRoom(size + KEPT_FREE)) {
-                return FULL;
-            }
-            if (view.memory.countWith(records) > MOST_IN_MEMORY) {
-                makeCheckpoint();
-            }
+            appendAll(records);
+            return records.count;
+        }
+
+        private void appendAll(Batch records) {
             for (int i = 0; i < records.count; i++) {
                 int goesOn = i < records.count - 1 ? GOES_ON : 0;
                 int number = view.nextNumber;
@@ -908,7 +927,6 @@ public final class TrailStore {
                 append(records.kind[i] | goesOn, records.key[i], records.value[i], records.length[i]);
                 view.memory.set(records.key[i], records.kind[i], number, place);
             }
-            return records.count;
         }
 
         private boolean hasRoom(int bytes) {
@@ -934,7 +952,8 @@ public final class TrailStore {
         void makeCheckpoint() {
             disk.makeLasting();
             if (view.memory.count > 0) {
-                tableOfMemory();
+                taken = view.placesInUse();
+                writeTable(0, view.memory, 0);
                 boolean tooMany = view.tablesUpTo(0) > MOST_OF_LEVEL_0;
                 for (int level = 1; level <= 2 && tooMany; level++) {
                     int replaced = view.tablesUpTo(level);
@@ -952,14 +971,6 @@ public final class TrailStore {
             view.checkpointNumber = view.nextNumber;
             writeRoot();
             disk.makeLasting();
-        }
-
-        private void tableOfMemory() {
-            taken = 0;
-            for (int i = 0; i < view.tables; i++) {
-                taken |= 1 << view.places[i];
-            }
-            writeTable(0, view.memory, 0);
         }
 
         private void writeTable(int level, Entries entries, int replaced) {
@@ -1060,16 +1071,6 @@ public final class TrailStore {
             int place = view.head;
             append(VALUE, key, moved, length);
             view.memory.set(key, VALUE, number, place);
-        }
-
-        private void makePass() {
-            int goal = view.head;
-            for (int round = 0; round < MOST_ROUNDS; round++) {
-                int looked = collectTail(MOST_COLLECTED);
-                if (looked == 0 || view.tail >= goal || disk.down) {
-                    return;
-                }
-            }
         }
 
         private static void setNumber(byte[] row, int at, int number) {
