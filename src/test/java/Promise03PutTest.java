@@ -8,6 +8,7 @@ public final class Promise03PutTest {
         freelyToTheByte(due);
         passMakesRoom(due);
         fullAfterPass(due);
+        crowdedBehindPass(due);
         failing(due);
         due.end();
     }
@@ -109,6 +110,22 @@ public final class Promise03PutTest {
         due.is("get(4)", x.get(4), TrailStore.NONE);
         due.is("put of the last 20 bytes", Due.put(x, 4, 8, 5), 1);
         due.told(x, 0, 628, 4, 4);
+        due.is("check()", x.check(), 1);
+    }
+
+    /** A pass can fill memory with what it moves: then there is a second checkpoint. */
+    private static void crowdedBehindPass(Due due) {
+        TrailStore x = new TrailStore(1024);
+        for (int i = 0; i < 45; i++) {
+            x.put(0);
+        }
+        for (int key = 0; key < 24; key++) {
+            x.put(key);
+        }
+        due.told(x, 0, 828, 4, 0, 5, 24);
+        due.is("put(30)", x.put(30), 1);
+        // a checkpoint; 45 are passed and 15 moved, to 1008; a checkpoint; 24 are moved, to 1296; a checkpoint
+        due.told(x, 0, 1308, 1, 1008, 2, 1296, 4, 5, 5, 1, 6, 3, 7, 2, 8, 25);
         due.is("check()", x.check(), 1);
     }
 

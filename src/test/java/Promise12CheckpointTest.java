@@ -70,6 +70,8 @@ public final class Promise12CheckpointTest {
         tables(due, x, new int[] {0, 2, 2, 3, 3, 4}, new int[] {0, 1, 1, 2, 2, 2}, new int[] {0, 1, 0, 1, 1, 1});
         round(x, 4, 1);
         tables(due, x, new int[] {1, 4, 4, 5, 1, 4});
+        due.cells(x, 2, 20, 1, 4, 0, 0, 0, 0);
+        due.cells(x, 2, 84, 3, 2, 1, 0, 0, 0);
         due.is("the number of key 4, of the newest table", x.entry(4, 1), 5);
         due.told(x, 14, 6);
         round(x, 5, 1);

@@ -1,3 +1,5 @@
+import java.util.Arrays;
+
 public final class Promise14CrashTest {
     public static void main(String[] args) {
         Due due = new Due("promise 14, crash");
@@ -88,44 +90,49 @@ public final class Promise14CrashTest {
         due.value(x, 4);
     }
 
-    /** A write round the log's end is cut in its midst. */
     private static void roundTheEnd(Due due) {
-        for (int cut = 0; cut <= 40; cut++) {
-            TrailStore x = new TrailStore(512);
-            for (int i = 0; i < 6; i++) {
-                Due.put(x, 1, 64, 50);
-                x.remove(1);
-                x.collect(1000);
+        for (int keep = 0; keep < 3; keep++) {
+            for (int cut = 0; cut <= 41; cut++) {
+                cutRoundTheEnd(due, keep, cut);
             }
-            due.told(x, 0, 528, 1, 528);
-            x = new TrailStore(512);
-            for (int i = 0; i < 5; i++) {
-                Due.put(x, 1, 64, 50);
-                x.remove(1);
-                x.collect(1000);
-            }
-            Due.put(x, 1, 25, 50);
+        }
+    }
+
+    /** A write round the log's end is cut in its midst. */
+    private static void cutRoundTheEnd(Due due, int keep, int cut) {
+        TrailStore x = new TrailStore(512);
+        for (int i = 0; i < 6; i++) {
+            Due.put(x, 1, i < 5 ? 64 : 25, 50);
             x.remove(1);
             x.collect(1000);
-            due.told(x, 0, 489, 1, 489);
-            x.sync();
-            int[] before = new int[512];
-            for (int i = 0; i < 512; i++) {
-                before[i] = x.cell(0, i);
-            }
-            // the value of 40 bytes lies at 501 .. 540, 29 of them behind the end
-            Due.put(x, 2, 40, 99);
-            due.is("the last byte", x.cell(0, 511), 99);
-            due.is("the byte at 28", x.cell(0, 28), 99);
-            due.is("crash(1, " + cut + ")", x.crash(1, cut), 3);
-            for (int i = 0; i < 512; i++) {
-                int place = i < 41 ? i + 512 : i;
-                boolean ofZeros = place >= 541 && place < 553 || i >= 29 && i < 41;
-                boolean ofValue = place >= 501 && place < 501 + cut;
-                due.is("cell(0, " + i + ")", x.cell(0, i), ofValue ? 99 : ofZeros ? 0 : before[i]);
-            }
-            due.is("open()", x.open(), 0);
-            due.told(x, 0, 489, 8, 0);
+        }
+        due.told(x, 0, 489, 1, 489);
+        int[] want = new int[512];
+        for (int i = 0; i < 512; i++) {
+            want[i] = x.cell(0, i);
+        }
+        // 12 zeros at 541, the value of 40 bytes at 501, 29 of them behind the end, the header at 489
+        Due.put(x, 2, 40, 99);
+        due.is("the last byte", x.cell(0, 511), 99);
+        due.is("the byte at 28", x.cell(0, 28), 99);
+        due.is("the byte at 29", x.cell(0, 29), 0);
+        int number = x.entry(2, 1);
+        due.is("crash(" + keep + ", " + cut + ")", x.crash(keep, cut), 3);
+        lay(want, 541, new int[12], keep > 0 ? 12 : cut);
+        int[] value = new int[40];
+        Arrays.fill(value, 99);
+        lay(want, 501, value, keep > 1 ? 40 : keep == 1 ? cut : 0);
+        int[] header = {1, 2, 40, 0, 0, 0, 0, number, 0, 0, 0, number};
+        lay(want, 489, header, keep == 2 ? cut : 0);
+        due.cells(x, 0, 0, want);
+        boolean whole = keep == 2 && cut >= 12;
+        due.is("open()", x.open(), whole ? 1 : 0);
+        due.told(x, 0, whole ? 541 : 489, 8, whole ? 1 : 0);
+    }
+
+    private static void lay(int[] log, int place, int[] bytes, int most) {
+        for (int i = 0; i < bytes.length && i < most; i++) {
+            log[(place + i) % log.length] = bytes[i];
         }
     }
 }

@@ -38,13 +38,13 @@ public final class Promise22CheckTest {
     private static void spoilt(Due due) throws ReflectiveOperationException {
         int tables = 600;
         int roots = 600 + 15600;
-        // key 5's record lies at 0 and is in a table, key 6's at 14 and is in memory; the root is root 1
+        // key 0's record lies at 0 and is in a table, key 6's at 14 and is in memory; the root is root 1
         int[][] spots = {{0, 2}, {0, 0}, {1, 6}, {7, 9}, {11, 9}, {3, 1}, {14, 0}, {15, 7}, {21, 9}, {25, 9}, {17, 1},
             {14, 129}, {tables + 16, 7}, {tables + 21, 90}, {tables + 25, 3}, {roots + 71, 28}, {roots + 79, 7},
             {roots + 84, 0}};
         for (int[] spot : spots) {
             TrailStore x = new TrailStore(600);
-            Due.put(x, 5, 2, 3);
+            Due.put(x, 0, 2, 3);
             x.checkpoint();
             Due.put(x, 6, 2, 4);
             byte[] cells = cellsOf(x);
