@@ -922,10 +922,7 @@ public final class TrailStore {
         private void appendAll(Batch records) {
             for (int i = 0; i < records.count; i++) {
                 int goesOn = i < records.count - 1 ? GOES_ON : 0;
-                int number = view.nextNumber;
-                int place = view.head;
                 append(records.kind[i] | goesOn, records.key[i], records.value[i], records.length[i]);
-                view.memory.set(records.key[i], records.kind[i], number, place);
             }
         }
 
@@ -933,7 +930,10 @@ public final class TrailStore {
             return view.head + bytes + HEADER - view.tail <= disk.room;
         }
 
-        /** The header last, so that a record that is cut off is none. */
+        /**
+         * The header last, so that a record that is cut off is none. Memory may have a batch's records
+         * before its last one is written: if the power fails in between, memory is gone as well.
+         */
         private void append(int kind, int key, byte[] value, int length) {
             disk.write(disk.logCell(view.head + HEADER + length), zeros, 0, HEADER);
             if (length > 0) {
@@ -945,6 +945,7 @@ public final class TrailStore {
             setNumber(header, 4, view.nextNumber);
             setNumber(header, 8, view.nextNumber);
             disk.write(disk.logCell(view.head), header, 0, HEADER);
+            view.memory.set(key, kind & ~GOES_ON, view.nextNumber, view.head);
             view.head += HEADER + length;
             view.nextNumber++;
         }
@@ -1051,7 +1052,7 @@ public final class TrailStore {
                     if (!roomInMemory || !hasRoom(size)) {
                         break;
                     }
-                    appendAgain(key, at);
+                    append(VALUE, key, moved, disk.copyValue(at, moved));
                 }
                 at += size;
                 looked++;
@@ -1063,14 +1064,6 @@ public final class TrailStore {
                 disk.makeLasting();
             }
             return looked;
-        }
-
-        private void appendAgain(int key, int from) {
-            int length = disk.copyValue(from, moved);
-            int number = view.nextNumber;
-            int place = view.head;
-            append(VALUE, key, moved, length);
-            view.memory.set(key, VALUE, number, place);
         }
 
         private static void setNumber(byte[] row, int at, int number) {
