@@ -17,7 +17,8 @@ public final class FaceTest {
         "int entry(int, int)", "int cell(int, int)", "int check()"};
 
     public static void main(String[] args) {
-        Due due = new Due("the face");
+        Due due = new Due("The public face");
+        due.sentence("public final class TrailStore {");
         TreeSet<String> found = new TreeSet<>();
         List<String> names = new ArrayList<>();
         for (Field field : TrailStore.class.getDeclaredFields()) {
