@@ -77,12 +77,12 @@ public final class Promise18ToldTest {
         TrailStore x = twoTables();
         looked(due, x, 7, 1, 1);
         looked(due, x, 0, 1, 0);
-        // 9 has bits 31 and 8, 4 has 28 and 17, 32 has 0 and 5, 20 has 12 and 1, 23 has 1 and 2, 27 has 29 and 14
+        // 9 has bits 31 and 8, 4 has 28 and 17, 32 has 0 and 5; one bit alone: 19 has 5 and 22, 17 has 23 and 0
         looked(due, x, 9, 0, 2);
         looked(due, x, 4, 1, 1);
         looked(due, x, 32, 1, 1);
-        looked(due, x, 20, 0, 2);
-        looked(due, x, 27, 0, 2);
+        looked(due, x, 19, 0, 2);
+        looked(due, x, 17, 0, 2);
         looked(due, x, 4, 1, 1);
         x.entry(5, 0);
         x.next(0);

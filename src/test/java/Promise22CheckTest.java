@@ -7,6 +7,7 @@ public final class Promise22CheckTest {
         recordOfAKey(due);
         checkpointInside(due);
         sameOpening(due);
+        otherValue(due);
         down(due);
         due.end();
     }
@@ -75,6 +76,8 @@ public final class Promise22CheckTest {
         spoilt(due, 1, 21, 90);
         spoilt(due, 1, 25, 3);
         spoilt(due, 1, 16, 7);
+        // the record of key 6 would end one byte behind HEAD
+        spoilt(due, 0, 16, 3);
         for (int tail = 0; tail <= 1; tail++) {
             TrailStore x = some();
             x.crash(9, 9);
@@ -106,6 +109,33 @@ public final class Promise22CheckTest {
         TrailStore z = some();
         Spoil.set(z, 2, 127, 2);
         due.is("check() without a root, where all is in the log", z.check(), 1);
+    }
+
+    /** The end of a batch, a removal, is lost: an opening has the value before the batch. */
+    private static void otherValue(Due due) {
+        due.sentence("with the same values");
+        int[][] values = {{2, 5, 0}, {2, 4, 1}, {3, 4, 0}, {1, 4, 0}, {0, 0, 0}};
+        for (int[] later : values) {
+            TrailStore x = new TrailStore(600);
+            Due.put(x, 6, 2, 4);
+            x.begin();
+            Due.put(x, 6, later[0], later[1]);
+            x.remove(7);
+            x.commit();
+            due.is("check() before", x.check(), 1);
+            Spoil.set(x, 0, 26 + later[0], 0);
+            due.is("check() with " + later[0] + " bytes of " + later[1] + " for 2 of 4", x.check(), later[2]);
+        }
+        TrailStore x = new TrailStore(600);
+        x.type(0x0102L, 2);
+        x.put(6);
+        x.begin();
+        x.type(0x0103L, 2);
+        x.put(6);
+        x.remove(7);
+        x.commit();
+        Spoil.set(x, 0, 28, 0);
+        due.is("check() with values that differ in the last byte", x.check(), 0);
     }
 
     /** An opening takes both from the root, so there the checkpoint can come to lie before TAIL. */

@@ -5,6 +5,7 @@ public final class TermsCheckpointTest {
         emptyMemory(due);
         levelZero(due);
         fourOfLevelZero(due);
+        takesTheirPlace(due);
         newestTableCounts(due);
         removalsInLevelOne(due);
         fortyEntries(due);
@@ -81,6 +82,28 @@ public final class TermsCheckpointTest {
             due.is("get(" + key + ")", x.get(key), 0);
         }
         due.told(x, 8, 13);
+    }
+
+    /** Level 1 takes the place of the four of level 0 and its own, before that of level 2. */
+    private static void takesTheirPlace(Due due) {
+        due.sentence("is written, and takes their place");
+        TrailStore x = new TrailStore(4096);
+        for (int i = 0; i < 4; i++) {
+            Due.round(x, 11 * i, 11);
+        }
+        due.tables(x, new int[] {2, 44, 5, 6, 0, 43});
+        for (int i = 0; i < 4; i++) {
+            Due.round(x, 50 + i, 1);
+        }
+        due.tables(x, new int[] {1, 4, 4, 11, 50, 53}, new int[] {2, 44, 5, 6, 0, 43});
+        for (int i = 0; i < 4; i++) {
+            Due.round(x, 60 + i, 1);
+        }
+        due.tables(x, new int[] {1, 8, 6, 16, 50, 63}, new int[] {2, 44, 5, 6, 0, 43});
+        for (int i = 0; i < 4; i++) {
+            Due.round(x, 70 + 9 * i, 9);
+        }
+        due.tables(x, new int[] {2, 88, 7, 22, 0, 105});
     }
 
     /** Key 1 is in all four tables, then in four more and that of level 1. */

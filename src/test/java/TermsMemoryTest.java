@@ -114,6 +114,14 @@ public final class TermsMemoryTest {
         x.remove(50);
         due.is("commit() that would make 25", x.commit(), 2);
         due.told(x, 4, 1, 5, 1, 6, 1);
+        TrailStore y = new TrailStore(4096);
+        Due.putAll(y, 0, 22);
+        y.begin();
+        for (int i = 0; i < 8; i++) {
+            y.put(30 + i % 2);
+        }
+        due.is("commit() of two keys that makes 24", y.commit(), 8);
+        due.told(y, 4, 0, 5, 24);
     }
 
     /** The keys of the batch that memory has do not help: there is one too many. */

@@ -2,7 +2,9 @@ public final class TermsTableTest {
     public static void main(String[] args) {
         Due due = new Due("Terms: tables");
         header(due);
+        filterInHeader(due);
         entries(due);
+        noMoreEntries(due);
         rising(due);
         filterOfEachKey(due);
         filterOfMany(due);
@@ -33,6 +35,18 @@ public final class TermsTableTest {
         due.cells(x, 1, 5 * 1300 + 12, 0, 0, 0, 6);
     }
 
+    private static void filterInHeader(Due due) {
+        due.sentence("its FILTER, its number once more");
+        TrailStore x = new TrailStore(600);
+        x.put(5);
+        x.put(7);
+        x.checkpoint();
+        Due.round(x, 9, 1);
+        // 5 has bits 3 and 28, 7 has 17 and 18, 9 has 31 and 8
+        due.cells(x, 1, 4, 0, 0, 0, 1, 0x10, 0x06, 0, 0x08, 0, 0, 0, 1);
+        due.cells(x, 1, 1304, 0, 0, 0, 2, 0x80, 0, 0x01, 0, 0, 0, 0, 2);
+    }
+
     private static void entries(Due due) {
         due.sentence("then of each entry 10 bytes: the key, the kind, where, the number");
         TrailStore x = new TrailStore(600);
@@ -49,6 +63,40 @@ public final class TermsTableTest {
         due.cells(x, 1, 36, 9, 1, 0, 0, 0, 52, 0, 0, 0, 5);
         due.cells(x, 1, 46, 50, 2, 0, 0, 0, 40, 0, 0, 0, 4);
         due.cells(x, 1, 56, 119, 1, 0, 0, 0, 15, 0, 0, 0, 2, 0);
+    }
+
+    /**
+     * 0, 32, 64 and 96 have the same bits. A table of 0 comes to the place where one of all four was, and
+     * their entries stay behind its own; but those of 32 and 64 are in the table of level 1, as they were put again.
+     */
+    private static void noMoreEntries(Due due) {
+        due.sentence("84, its level, how many entries");
+        TrailStore x = new TrailStore(4096);
+        for (int key = 0; key < 128; key += 32) {
+            x.put(key);
+        }
+        x.checkpoint();
+        Due.round(x, 32, 1);
+        Due.round(x, 64, 1);
+        x.remove(96);
+        x.checkpoint();
+        Due.round(x, 0, 1);
+        due.tables(x, new int[] {0, 1, 0, 6, 0, 0}, new int[] {1, 4, 4, 5, 0, 96});
+        due.cells(x, 1, 26, 32, 1, 0, 0, 0, 12, 0, 0, 0, 2, 64, 1);
+        due.entry(x, 32, 1, 5, 48, 0);
+        due.entry(x, 64, 1, 6, 60, 0);
+        due.entry(x, 96, 2, 7, 72, 0);
+        due.is("get(32)", x.get(32), 0);
+        due.told(x, 10, 2, 11, 0);
+        due.told(x, 8, 3);
+        due.is("check()", x.check(), 1);
+        // merged, they are not taken for entries either
+        for (int i = 0; i < 3; i++) {
+            Due.round(x, 0, 1);
+        }
+        due.tables(x, new int[] {1, 4});
+        due.entry(x, 32, 1, 5, 48, 0);
+        due.entry(x, 96, 2, 7, 72, 0);
     }
 
     private static void rising(Due due) {

@@ -10,6 +10,7 @@ public final class TermsWrittenTest {
         full(due);
         fullStaysDone(due);
         fullAfterCheckpoint(due);
+        fullThoughCrowded(due);
         crowdedBehindPass(due);
         goingOn(due);
         memoryHasThem(due);
@@ -152,6 +153,19 @@ public final class TermsWrittenTest {
         due.none("get(24)", x.get(24));
         due.is("put of 36 bytes", Due.put(x, 24, 24, 1), 1);
         due.told(x, 0, 732, 4, 4, 5, 18, 8, 25);
+    }
+
+    /** A pass moves all 24 keys: memory would have too many, but without room there is no checkpoint more. */
+    private static void fullThoughCrowded(Due due) {
+        due.sentence("if there is not then either: FULL (all that was done till then stays done); again");
+        TrailStore x = new TrailStore(1024);
+        Due.putAll(x, 0, 24);
+        x.begin();
+        for (int i = 0; i < 8; i++) {
+            Due.put(x, 50, 64, i);
+        }
+        due.full("commit() of 608 bytes where 548 are free", x.commit());
+        due.told(x, 0, 576, 1, 288, 2, 288, 4, 2, 5, 24, 6, 1, 8, 24);
     }
 
     /** A pass can fill memory with what it moves: then there is one more checkpoint. */
